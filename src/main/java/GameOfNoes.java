@@ -420,11 +420,11 @@ public final class GameOfNoes {
 
     /** Does one PLY, if it can be. */
     private boolean told(Position position, int bits, int no, int done) {
-        if (!isMove(no) || !isMove(done) || no == done || isOver(position)) {
+        if (!isMove(no) || !isMove(done) || isOver(position)) {
             return false;
         }
         int used = bits & (1 << no | 1 << done);
-        if (bits == 0 || (bits & options.able) != bits || Integer.bitCount(used) != 2) {
+        if ((bits & options.able) != bits || Integer.bitCount(used) != 2) {
             return false;
         }
         options.advance(position, rules(now.book), no, done);
@@ -666,9 +666,7 @@ public final class GameOfNoes {
             Clause clause = clauses[size];
             size++;
             clause.type = type;
-            clause.nextOfMove = null;
             clause.codeStart = codeLength;
-            clause.codeEnd = codeLength;
             if (isSingle(type)) {
                 single[type - PLACE] = clause;
             }

@@ -28,7 +28,7 @@ public final class ModelTest {
 
     public static void main(String[] args) {
         int from = args.length > 0 ? Integer.parseInt(args[0]) : 0;
-        int to = args.length > 1 ? Integer.parseInt(args[1]) : 300;
+        int to = args.length > 1 ? Integer.parseInt(args[1]) : 1500;
         Due due = new Due("ModelTest");
         int[] seen = new int[40];
         for (int seed = from; seed < to && due.wrong() == 0; seed++) {
@@ -42,7 +42,8 @@ public final class ModelTest {
     }
 
     private void wholeRun() {
-        tellText(upTo(6) == 0 ? Texts.rules(random, true, upTo(3) > 0) : Texts.livelyBook(random));
+        int kind = upTo(8);
+        tellText(kind == 0 ? Texts.rules(random, true, upTo(3) > 0) : kind < 3 ? Texts.flips(3 + upTo(3)) : Texts.livelyBook(random));
         tellText(Texts.rules(random, false, true));
         setUp();
         if (upTo(8) > 0) same("image()", game.image(), plain.image());

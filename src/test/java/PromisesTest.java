@@ -209,6 +209,16 @@ public final class PromisesTest {
         due.is("the tape stays", x.about(8), 8);
         due.is("it was not read", x.fault(0), 0);
         due.is("about(3)", x.about(3), 6);
+        // What was read into the same room before leaves nothing behind.
+        GameOfNoes y = new GameOfNoes(2, 1);
+        y.piece(0, 0, 0);
+        for (int i = 0; i < 12; i++) {
+            due.is("a fault again", Due.tell(y, "move 0 change 0,1;place 1+2+3+4+5+6+7+8+9+10+11+12+13+14+15+16+17+18+19+20;x"), NONE);
+        }
+        due.is("text behind faults", Due.tell(y, "move 1 change 0,2 while 1+2+3+4=10;place to;offer 1;"), 0);
+        y.book(0);
+        due.is("move 0 isn't there", y.can(0, 0), NONE);
+        due.is("move 1 is", y.can(1, 2), 0);
         isFault("move0step0,1;move\n1 leap 2 , 3while(1)<-1;place-1;offer side;refuse to;choose from;never not mine#theirs;", 0, NONE);
         isFault("never 1<2 and 1<=2 or 1>2 and 1>=2 or 1=2 and not 1#2;never(1)=2;never-1=-(-2)*3/4+5-6;", 0, NONE);
     }
@@ -229,6 +239,22 @@ public final class PromisesTest {
         isFault("  step 0,1;", 1, 2);
         isFault("Place 1;", 1, 0);
         isFault("places 1;", 1, 0);
+        isFault("placea 1;", 1, 0);
+        isFault("placez 1;", 1, 0);
+        isFault("placeA 1;", 1, 0);
+        isFault("placeZ 1;", 1, 0);
+        isFault("place`1;", 1, 5);
+        isFault("place{1;", 1, 5);
+        isFault("place@1;", 1, 5);
+        isFault("place[1;", 1, 5);
+        isFault("place:1;", 1, 5);
+        isFault("place 1:;", 1, 7);
+        isFault("place 1.;", 1, 7);
+        isFault("place 1\r;", 1, 7);
+        isFault("plac", 1, 0);
+        isFault("place 0123456789;", 2, 6);
+        isFault("never 1<", 1, 8);
+        isFault("never 1>", 1, 8);
         isFault("place 1", 1, 7);
         isFault("place 1 2;", 1, 8);
         isFault("place 1+;", 1, 8);
@@ -499,6 +525,17 @@ public final class PromisesTest {
         isSo("1=2", false);
         isSo("1#2", true);
         isSo("2#2", false);
+        isSo("not 1<2", false);
+        isSo("not 2<=2", false);
+        isSo("not 3>2", false);
+        isSo("not 2>=2", false);
+        isSo("not 1#2", false);
+        isSo("not 2<1", true);
+        isSo("1<2 and 1=1", true);
+        isSo("1<=2 and 1=1", true);
+        isSo("2>1 and 1=1", true);
+        isSo("2>=1 and 1=1", true);
+        isSo("1#2 and 1=1", true);
         isSo("not 1=1", false);
         isSo("not not 1=1", true);
         isSo("1=1 or 1=1 and 1=2", true);
@@ -700,6 +737,12 @@ public final class PromisesTest {
         due.is("by another heap", x.again(), 4);
         x.ply(0, 1, 2, 2, 0);
         due.is("the first such one", x.again(), 4);
+        GameOfNoes forty = flips(FLIPS, 2, 2, 2);
+        for (int i = 0; i < 39; i++) forty.ply(0, 1, 2, i % 2, 1 - i % 2);
+        due.is("39 plies", forty.again(), NONE);
+        due.is("the 40th", forty.ply(0, 1, 2, 2, 0), 40);
+        due.is("all 40 can be", forty.judge(), NONE);
+        due.is("again by the 40th", forty.again(), 39);
         GameOfNoes y = flips(FLIPS, 2, 2, 2);
         y.ply(0, 1, 2, 0, 1);
         y.ply(0, 1, 2, 0, 2);
@@ -754,6 +797,19 @@ public final class PromisesTest {
         GameOfNoes y = flips(FLIPS, 3, 1, 1);
         due.is("drawn(0, 1, 0)", y.drawn(0, 1, 0), 1);
         due.is("drawn(0, 1, 1)", y.drawn(0, 1, 1), 0);
+        // Eight moves with counts of 3 go on for some thirty plies: some end by then, some don't.
+        StringBuilder eight = new StringBuilder();
+        for (int move = 0; move < 8; move++) eight.append("move ").append(move).append("change0,1;move ").append(move).append("change1,0;");
+        int ended = 0;
+        for (int seed = 0; seed < 60; seed++) {
+            GameOfNoes z = flips(eight.toString(), 2, 2, 2, 2, 2, 2, 2, 1);
+            int winner = byHand(seed, new int[] {2, 2, 2, 2, 2, 2, 2, 1});
+            ended += winner == NONE ? 0 : 1;
+            due.is("eight moves, side 0 by seed " + seed, z.drawn(seed, 1, 0), winner == 0 ? 1 : 0);
+            due.is("eight moves, side 1 by seed " + seed, z.drawn(seed, 1, 1), winner == 1 ? 1 : 0);
+        }
+        due.is("some end", ended > 0, true);
+        due.is("some don't", ended < 60, true);
         for (int seed = 0; seed < 40; seed++) {
             int winner = byHand(seed, new int[] {3, 2, 2});
             y.heap(0, 3);
@@ -765,22 +821,29 @@ public final class PromisesTest {
         due.is("it was tried only", y.about(10) + 10 * y.about(11) + 100 * y.about(12), 223);
     }
 
-    /** The winner of a drawn game of the three moves that can always be done. */
+    /** The winner of a drawn game of moves that can always be done. */
     private static int byHand(int seed, int[] heap) {
         int x = seed * 7 + 9;
-        for (int plies = 0; plies <= 30; plies++) {
-            if (heap[0] == 0 || heap[1] == 0 || heap[2] == 0) return plies % 2;
+        for (int plies = 0; ; plies++) {
+            java.util.List<int[]> offers = new java.util.ArrayList<>();
+            for (int a = 0; a < heap.length; a++) {
+                for (int b = a + 1; b < heap.length; b++) {
+                    for (int c = b + 1; c < heap.length; c++) {
+                        if (heap[a] > 0 && heap[b] > 0 && heap[c] > 0) offers.add(new int[] {a, b, c});
+                    }
+                }
+            }
+            if (offers.isEmpty()) return plies % 2;
+            if (plies == 30) return NONE;
+            int[] offer = offers.get(x % offers.size());
             x = (x * 157 + 53) % 30113;
             int no = x % 3;
             x = (x * 157 + 53) % 30113;
-            int lower = no == 0 ? 1 : 0;
-            int higher = no == 2 ? 1 : 2;
-            int done = x % 2 == 0 ? lower : higher;
+            int done = x % 2 == 0 ? (no == 0 ? 1 : 0) : no == 2 ? 1 : 2;
             x = (x * 157 + 53) % 30113;
-            heap[no] = Math.min(3, heap[no] + 1);
-            heap[done]--;
+            heap[offer[no]] = Math.min(3, heap[offer[no]] + 1);
+            heap[offer[done]]--;
         }
-        return NONE;
     }
 
     /** A game of too many states: two pieces with much room, and eight moves. */
@@ -813,7 +876,35 @@ public final class PromisesTest {
         due.is("by the second text 1", y.states(), 1);
         y.book(0);
         y.heap(0, 2);
-        due.is("by another heap", y.states() > 7, true);
+        due.is("by another heap", y.states(), 48);
+        for (int move = 0; move < 3; move++) y.heap(move, 0);
+        y.piece(0, NONE, 0);
+        y.piece(1, NONE, 0);
+        due.is("of an empty board and heap", y.states(), 1);
+        due.is("of more", flips(FLIPS_4, 3, 3, 3, 3).states(), fourFlips());
+    }
+
+    /** How many states four moves that only change the two pieces have, from 3 3 3 3 on. */
+    private static int fourFlips() {
+        java.util.Set<Integer> all = new java.util.HashSet<>();
+        java.util.List<Integer> list = new java.util.ArrayList<>();
+        list.add(255);
+        all.add(255);
+        for (int i = 0; i < list.size(); i++) {
+            // Two bits a count, then a bit for the kind of each piece, then the turn.
+            int state = list.get(i);
+            int able = 0;
+            for (int m = 0; m < 4; m++) able += (state >> 2 * m & 3) > 0 ? 1 : 0;
+            for (int pair = 0; pair < 16 && able >= 3; pair++) {
+                int no = pair / 4;
+                int done = pair % 4;
+                if (no == done || (state >> 2 * no & 3) == 0 || (state >> 2 * done & 3) == 0) continue;
+                int next = state - (1 << 2 * done) + ((state >> 2 * no & 3) == 3 ? 0 : 1 << 2 * no);
+                next ^= 256 << (state >> 10) ^ 1024;
+                if (all.add(next)) list.add(next);
+            }
+        }
+        return list.size();
     }
 
     private void best() {
@@ -934,6 +1025,10 @@ public final class PromisesTest {
         due.is("by a count of 2 or 3", least >= 2, true);
         due.is("balanced(2) of 2 1 .", flips(FLIPS, 2, 1, 0).balanced(2), least);
         due.is("balanced(2)", x.balanced(2), 0);
+        // Move 2 can be done only by a count of 3, so by less there is no offer.
+        GameOfNoes three = flips("move 0 change 0,1;move 0 change 1,0;move 1 change 0,1;move 1 change 1,0;"
+            + "move 2 change 0,1 while count=3;move 2 change 1,0 while count=3;", 3, 3, 0);
+        due.is("by a count of 3", three.balanced(2), 3);
         due.is("the heap stays", x.about(12), 2);
         due.is("a move that can't be done", x.balanced(7), 0);
         due.is("none", flips(FLIPS, 1, 1, 1).balanced(0), NONE);

@@ -51,6 +51,15 @@ final class Texts {
         return text.toString();
     }
 
+    /** A book in which all of some moves can always be done by a piece of kind 0 or 1. */
+    static String flips(int moves) {
+        StringBuilder text = new StringBuilder();
+        for (int move = 0; move < moves; move++) {
+            text.append("move ").append(move).append("change0,1;move ").append(move).append("change1,0;");
+        }
+        return text.toString();
+    }
+
     private static String once(Random random, boolean withMoves, boolean withAsking) {
         StringBuilder text = new StringBuilder();
         int acts = withMoves ? 4 + random.nextInt(12) : random.nextInt(2);
