@@ -746,7 +746,9 @@ public final class GameOfNoes {
             for (int n = 0; n <= MOST_BYTES && fault == 0 && token != TAPE_END; n++) {
                 clause();
             }
-            rules.chain();
+            if (fault == 0) {
+                rules.chain();
+            }
             length = 0;
         }
 
@@ -775,14 +777,12 @@ public final class GameOfNoes {
             advance();
             if (type == MOVE) {
                 act(clause);
+            } else {
+                level(type == NEVER ? EITHER : SUM, 0);
             }
-            if (type == NEVER || type == MOVE && token == WHILE) {
-                if (type == MOVE) {
-                    expect(WHILE);
-                }
+            if (type == MOVE && fault == 0 && token == WHILE) {
+                advance();
                 level(EITHER, 0);
-            } else if (type != MOVE) {
-                level(SUM, 0);
             }
             clause.codeEnd = rules.codeLength;
             expect(SEMICOLON);

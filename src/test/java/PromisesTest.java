@@ -215,10 +215,11 @@ public final class PromisesTest {
         for (int i = 0; i < 12; i++) {
             due.is("a fault again", Due.tell(y, "move 0 change 0,1;place 1+2+3+4+5+6+7+8+9+10+11+12+13+14+15+16+17+18+19+20;x"), NONE);
         }
-        due.is("text behind faults", Due.tell(y, "move 1 change 0,2 while 1+2+3+4=10;place to;offer 1;"), 0);
+        due.is("text behind faults", Due.tell(y, "move 1 change 0,2 while 1+2+3+4=10;move 2 change 0,2 while 1=2;"), 0);
         y.book(0);
         due.is("move 0 isn't there", y.can(0, 0), NONE);
         due.is("move 1 is", y.can(1, 2), 0);
+        due.is("move 2 is asked", y.can(2, 0), NONE);
         isFault("move0step0,1;move\n1 leap 2 , 3while(1)<-1;place-1;offer side;refuse to;choose from;never not mine#theirs;", 0, NONE);
         isFault("never 1<2 and 1<=2 or 1>2 and 1>=2 or 1=2 and not 1#2;never(1)=2;never-1=-(-2)*3/4+5-6;", 0, NONE);
     }
@@ -797,19 +798,18 @@ public final class PromisesTest {
         GameOfNoes y = flips(FLIPS, 3, 1, 1);
         due.is("drawn(0, 1, 0)", y.drawn(0, 1, 0), 1);
         due.is("drawn(0, 1, 1)", y.drawn(0, 1, 1), 0);
-        // Eight moves with counts of 3 go on for some thirty plies: some end by then, some don't.
+        // Eight moves with counts of 3 go on for some thirty plies: some end just then.
         StringBuilder eight = new StringBuilder();
         for (int move = 0; move < 8; move++) eight.append("move ").append(move).append("change0,1;move ").append(move).append("change1,0;");
-        int ended = 0;
-        for (int seed = 0; seed < 60; seed++) {
-            GameOfNoes z = flips(eight.toString(), 2, 2, 2, 2, 2, 2, 2, 1);
-            int winner = byHand(seed, new int[] {2, 2, 2, 2, 2, 2, 2, 1});
-            ended += winner == NONE ? 0 : 1;
+        GameOfNoes z = flips(eight.toString(), 3, 3, 3, 3, 3, 3, 3, 3);
+        int[] ends = new int[3];
+        for (int seed = 0; seed < 160; seed++) {
+            int winner = byHand(seed, new int[] {3, 3, 3, 3, 3, 3, 3, 3});
+            ends[winner + 1]++;
             due.is("eight moves, side 0 by seed " + seed, z.drawn(seed, 1, 0), winner == 0 ? 1 : 0);
             due.is("eight moves, side 1 by seed " + seed, z.drawn(seed, 1, 1), winner == 1 ? 1 : 0);
         }
-        due.is("some end", ended > 0, true);
-        due.is("some don't", ended < 60, true);
+        due.is("some end by then, some don't", ends[0] > 0 && ends[1] > 0 && ends[2] > 0, true);
         for (int seed = 0; seed < 40; seed++) {
             int winner = byHand(seed, new int[] {3, 2, 2});
             y.heap(0, 3);
