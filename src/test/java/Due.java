@@ -24,6 +24,10 @@ final class Due {
         return wrong;
     }
 
+    int asked() {
+        return asked;
+    }
+
     /** Ends the test's program, with exit code 1 if an answer was wrong. */
     void finish() {
         System.out.println(test + ": " + asked + " answers, " + wrong + " wrong");

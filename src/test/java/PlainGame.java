@@ -279,6 +279,12 @@ final class PlainGame {
         return graph.spent ? -2 : graph.all.size();
     }
 
+    /** How many states there are, by another limit than the document's. */
+    int statesUpTo(int most) {
+        Graph graph = new Graph(now, most);
+        return graph.spent ? -2 : graph.all.size();
+    }
+
     int best(int what) {
         if (what < 0 || what > 1) return -3;
         Graph graph = graphFrom(now);
@@ -542,7 +548,7 @@ final class PlainGame {
     private Graph graphFrom(State from) {
         List<Clause> book = bookNumber < 0 ? null : texts.get(bookNumber);
         if (latest == null || book != latestBook || !latestKey.equals(from.key())) {
-            latest = new Graph(from);
+            latest = new Graph(from, 2000);
             latestKey = from.key();
             latestBook = book;
             if (!latest.spent) latest.solve();
@@ -559,7 +565,7 @@ final class PlainGame {
         final Map<Integer, Integer> lostIn = new HashMap<>();
         boolean spent;
 
-        Graph(State from) {
+        Graph(State from, int most) {
             all.put(from.key(), 0);
             list.add(from);
             for (int i = 0; i < list.size() && !spent; i++) {
@@ -573,7 +579,7 @@ final class PlainGame {
                                 State next = behind(s, no, done);
                                 Integer known = all.get(next.key());
                                 if (known == null) {
-                                    if (list.size() == 2000) {
+                                    if (list.size() == most) {
                                         spent = true;
                                         return;
                                     }

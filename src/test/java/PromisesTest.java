@@ -1,9 +1,7 @@
 /** Each promise of the document by itself: ordinary inputs, the edges that it names, and wrong inputs. */
 public final class PromisesTest {
-    // All three moves can be done by whoever has a piece of kind 0 or 1, for ever.
-    private static final String FLIPS =
-        "move 0 change 0,1;move 0 change 1,0;move 1 change 0,1;move 1 change 1,0;move 2 change 0,1;move 2 change 1,0;";
-    private static final String FLIPS_4 = FLIPS + "move 3 change 0,1;move 3 change 1,0;";
+    private static final String FLIPS = Games.FLIPS;
+    private static final String FLIPS_4 = Games.FLIPS_4;
     private static final int NONE = GameOfNoes.NONE;
     private static final int SPENT = GameOfNoes.SPENT;
 
@@ -53,22 +51,12 @@ public final class PromisesTest {
         test.due.finish();
     }
 
-    /** A 2 by 1 board with a piece of each side, and a book that lets them do moves 0 to 2. */
     private static GameOfNoes flips(String book, int... heap) {
-        GameOfNoes x = new GameOfNoes(2, 1);
-        Due.tell(x, book);
-        x.book(0);
-        x.piece(0, 0, 0);
-        x.piece(1, 0, 1);
-        for (int move = 0; move < heap.length; move++) x.heap(move, heap[move]);
-        return x;
+        return Games.flips(book, heap);
     }
 
     private static GameOfNoes withBook(int w, int h, String book) {
-        GameOfNoes x = new GameOfNoes(w, h);
-        Due.tell(x, book);
-        x.book(0);
-        return x;
+        return Games.withBook(w, h, book);
     }
 
     private void isFault(String text, int fault, int place) {
@@ -804,14 +792,14 @@ public final class PromisesTest {
         GameOfNoes z = flips(eight.toString(), 3, 3, 3, 3, 3, 3, 3, 3);
         int[] ends = new int[3];
         for (int seed = 0; seed < 160; seed++) {
-            int winner = byHand(seed, new int[] {3, 3, 3, 3, 3, 3, 3, 3});
+            int winner = byHand(seed, 3, 3, 3, 3, 3, 3, 3, 3);
             ends[winner + 1]++;
             due.is("eight moves, side 0 by seed " + seed, z.drawn(seed, 1, 0), winner == 0 ? 1 : 0);
             due.is("eight moves, side 1 by seed " + seed, z.drawn(seed, 1, 1), winner == 1 ? 1 : 0);
         }
         due.is("some end by then, some don't", ends[0] > 0 && ends[1] > 0 && ends[2] > 0, true);
         for (int seed = 0; seed < 40; seed++) {
-            int winner = byHand(seed, new int[] {3, 2, 2});
+            int winner = byHand(seed, 3, 2, 2);
             y.heap(0, 3);
             y.heap(1, 2);
             y.heap(2, 2);
@@ -821,39 +809,12 @@ public final class PromisesTest {
         due.is("it was tried only", y.about(10) + 10 * y.about(11) + 100 * y.about(12), 223);
     }
 
-    /** The winner of a drawn game of moves that can always be done. */
-    private static int byHand(int seed, int[] heap) {
-        int x = seed * 7 + 9;
-        for (int plies = 0; ; plies++) {
-            java.util.List<int[]> offers = new java.util.ArrayList<>();
-            for (int a = 0; a < heap.length; a++) {
-                for (int b = a + 1; b < heap.length; b++) {
-                    for (int c = b + 1; c < heap.length; c++) {
-                        if (heap[a] > 0 && heap[b] > 0 && heap[c] > 0) offers.add(new int[] {a, b, c});
-                    }
-                }
-            }
-            if (offers.isEmpty()) return plies % 2;
-            if (plies == 30) return NONE;
-            int[] offer = offers.get(x % offers.size());
-            x = (x * 157 + 53) % 30113;
-            int no = x % 3;
-            x = (x * 157 + 53) % 30113;
-            int done = x % 2 == 0 ? (no == 0 ? 1 : 0) : no == 2 ? 1 : 2;
-            x = (x * 157 + 53) % 30113;
-            heap[offer[no]] = Math.min(3, heap[offer[no]] + 1);
-            heap[offer[done]]--;
-        }
+    private static int byHand(int seed, int... heap) {
+        return Games.drawnByHand(new int[] {seed * 7 + 9}, heap);
     }
 
-    /** A game of too many states: two pieces with much room, and eight moves. */
     private static GameOfNoes spent() {
-        GameOfNoes x = withBook(4, 3, "move 0 step 0,0;move 1 step 0,1;move 2 step 0,2;move 3 step 0,3;move 4 change 0,1;"
-            + "move 4 change 1,0;move 5 change 0,1;move 5 change 1,0;move 6 change 0,1;move 6 change 1,0;");
-        x.piece(5, 0, 0);
-        x.piece(7, 0, 1);
-        for (int move = 0; move < 8; move++) x.heap(move, 2);
-        return x;
+        return Games.spent();
     }
 
     private void states() {
