@@ -59,7 +59,7 @@ final class GameEdges {
             GameEdges::firstThatCant, GameEdges::noneThatCant, GameEdges::judgedFromNowOn, GameEdges::judgedIsTried,
             GameEdges::judgedBehindTheEnd);
         all.on("Terms", "AGAIN: the first PLY behind which BOARD and TURN are as they were ahead of the first one or behind an earlier one,",
-            GameEdges::asAheadOfTheFirst, GameEdges::asBehindAnEarlierOne, GameEdges::firstAgain, GameEdges::boardButNotTurn);
+            GameEdges::asAheadOfTheFirst, GameEdges::asAheadOfTheFirstOnTheLastPlaces, GameEdges::asBehindAnEarlierOne, GameEdges::firstAgain, GameEdges::boardButNotTurn);
         all.on("Terms", "but not THE HEAP", GameEdges::sameHeap);
         all.on("Terms", "(PLIES up to the one that can't be, not it).", GameEdges::againAheadOfWhatCant, GameEdges::againBehindWhatCant);
     }
@@ -537,6 +537,19 @@ final class GameEdges {
         due.is("three of them", withGame(plies[0], plies[1], plies[2]).again(), NONE);
     }
 
+    private static void asAheadOfTheFirstOnTheLastPlaces(Due due) {
+        GameOfNoes x = Games.heap(Games.withBook(4, 3, Games.FLIPS_4), 2, 2, 2, 2);
+        x.piece(10, 0, 0);
+        x.piece(11, 3, 0);
+        x.piece(9, 0, 1);
+        int[][] plies = {{0, 2, 3, 2, 0}, {1, 2, 3, 3, 1}, {0, 1, 2, 0, 2}, {0, 1, 2, 2, 0}};
+        for (int i = 0; i < 4; i++) {
+            due.is("not yet", x.again(), NONE);
+            x.ply(plies[i][0], plies[i][1], plies[i][2], plies[i][3], plies[i][4]);
+        }
+        due.is("the 4th", x.again(), 3);
+    }
+
     private static void asBehindAnEarlierOne(Due due) {
         // Behind the 4th the heap is 2 2 2 2 as at first; the 5th comes to the board behind the 1st, by 2 1 3 2.
         int[][] plies = {{0, 1, 2, 0, 1}, {0, 1, 2, 1, 0}, {0, 1, 2, 0, 1}, {0, 1, 2, 1, 0}, {0, 1, 2, 2, 1}};
@@ -900,6 +913,12 @@ final class GameEdges {
         x.ply(0, 1, 2, 0, 1);
         due.is("of one ply", x.again(), NONE);
         due.is("of a new object", new GameOfNoes(2, 1).again(), NONE);
+        int[][] plies = {{0, 2, 3, 2, 0}, {1, 2, 3, 3, 1}, {0, 1, 2, 0, 2}, {0, 1, 2, 2, 0}};
+        GameOfNoes y = withGame(plies);
+        due.is("of four plies", y.again(), 3);
+        y.ply(NONE, 0, 0, 0, 0);
+        for (int i = 0; i < 3; i++) y.ply(plies[i][0], plies[i][1], plies[i][2], plies[i][3], plies[i][4]);
+        due.is("of three, the 4th being gone", y.again(), NONE);
     }
 
     private static void matchOfOne(Due due) {

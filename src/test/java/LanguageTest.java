@@ -17,12 +17,16 @@ import com.sun.source.util.JavacTask;
 import com.sun.source.util.TreePathScanner;
 import com.sun.source.util.Trees;
 import java.io.File;
+import java.lang.management.ManagementFactory;
+import java.lang.reflect.Array;
+import java.lang.reflect.Field;
 import java.lang.reflect.Method;
 import java.lang.reflect.Modifier;
 import java.util.ArrayList;
 import java.util.Arrays;
 import java.util.HashMap;
 import java.util.HashSet;
+import java.util.IdentityHashMap;
 import java.util.List;
 import java.util.Map;
 import java.util.Set;
@@ -34,7 +38,7 @@ import javax.tools.JavaCompiler;
 import javax.tools.StandardJavaFileManager;
 import javax.tools.ToolProvider;
 
-/** The face of the class, and those rules of LANGUAGE.md that can be seen from the source. */
+/** The face of the class, those rules of LANGUAGE.md that can be seen from the source, and the room that it takes. */
 public final class LanguageTest {
     private static final String SOURCE = "src/main/java/GameOfNoes.java";
     private static final String[] FACE = {
@@ -55,6 +59,8 @@ public final class LanguageTest {
         LanguageTest test = new LanguageTest();
         test.face();
         test.source();
+        test.room();
+        test.making();
         test.due.finish();
     }
 
@@ -88,6 +94,78 @@ public final class LanguageTest {
                 scanner.conclude();
             }
         }
+    }
+
+    /** The room that a run has is some 600,000 objects and 7.3 million fields and elements: one object takes little of it. */
+    private void room() throws IllegalAccessException {
+        Map<Object, Boolean> seen = new IdentityHashMap<>();
+        List<Object> todo = new ArrayList<>(List.of(Games.spent()));
+        long elements = 0;
+        while (!todo.isEmpty()) {
+            Object one = todo.remove(todo.size() - 1);
+            if (one instanceof String || seen.put(one, true) != null) continue;
+            if (one.getClass().isArray()) {
+                elements += Array.getLength(one);
+                if (one instanceof Object[] row) for (Object part : row) if (part != null) todo.add(part);
+                continue;
+            }
+            for (Field field : one.getClass().getDeclaredFields()) {
+                if (Modifier.isStatic(field.getModifiers())) continue;
+                field.setAccessible(true);
+                elements++;
+                if (!field.getType().isPrimitive() && field.get(one) != null) todo.add(field.get(one));
+            }
+        }
+        due.is(seen.size() + " objects and arrays of a game", seen.size() < 500, true);
+        due.is(elements + " fields and elements of a game", elements < 400000, true);
+    }
+
+    /** No call makes anything, the dearest ones neither. */
+    private void making() {
+        if (!(ManagementFactory.getThreadMXBean() instanceof com.sun.management.ThreadMXBean bean)) return;
+        long thread = Thread.currentThread().getId();
+        GameOfNoes[] games = {Games.spent(), Games.flips(Games.FLIPS_4, 1, 1, 1, 1), Games.flips(Games.FLIPS, 2, 2, 2)};
+        for (GameOfNoes x : games) everyCall(x);
+        long before = bean.getThreadAllocatedBytes(thread);
+        for (int i = 0; i < 10; i++) {
+            for (GameOfNoes x : games) everyCall(x);
+        }
+        long made = bean.getThreadAllocatedBytes(thread) - before;
+        due.is("bytes that calls made: " + made, made < 5000, true);
+    }
+
+    private static void everyCall(GameOfNoes x) {
+        x.image();
+        x.piece(0, 0, 0);
+        x.heap(0, 2);
+        x.turn(0);
+        x.feed(0x706c6163, 0x65203120, 0x2b202832, 0x293b2020, 0x20202020);
+        x.end(20);
+        x.text();
+        x.feed(0, 0, 0, 0, 0);
+        x.text();
+        x.fault(0);
+        x.book(0);
+        x.way(0, 0);
+        x.can(0, 0);
+        x.offers(-1);
+        x.play(0, 1, 2, 0, 1);
+        x.run(9);
+        x.won();
+        x.ply(0, 1, 2, 0, 1);
+        x.judge();
+        x.again();
+        x.match(9, 0);
+        x.drawn(7, 20, 0);
+        x.states();
+        x.best(0);
+        x.good(-1);
+        x.loses(0, 1, 2);
+        x.line(0, 0);
+        x.runs();
+        x.balanced(0);
+        x.back();
+        x.about(0);
     }
 
     private final class Scanner extends TreePathScanner<Void, Void> {

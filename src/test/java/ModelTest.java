@@ -56,7 +56,8 @@ public final class ModelTest {
 
     /** Mostly 0 .. n - 1, now and then something else. */
     private int about(int n) {
-        int kind = upTo(24);
+        int kind = upTo(28);
+        if (kind == 3) return upTo(2) == 0 ? Integer.MIN_VALUE + upTo(40) : Integer.MAX_VALUE - upTo(40);
         return kind == 0 ? -1 : kind == 1 ? n : kind == 2 ? upTo(400) - 200 : upTo(n);
     }
 

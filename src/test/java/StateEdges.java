@@ -31,10 +31,12 @@ final class StateEdges {
     }
 
     private static void states(Sentences all) {
-        all.on("Terms", "STATES: BOARD, THE HEAP, TURN.", StateEdges::statesByTheHeap, StateEdges::statesByTheBoard, StateEdges::statesByTheTurn);
+        all.on("Terms", "STATES: BOARD, THE HEAP, TURN.", StateEdges::statesByTheHeap, StateEdges::statesByTheBoard, StateEdges::statesByTheLastPlaces,
+            StateEdges::statesByTheTurn);
         all.on("Terms", "From now on by all OFFERS, NOES and choices: the 2001st state ends it: SPENT (found by fewest PLIES, "
             + "of like ones in the order of states, then NO, then what is done).",
-            StateEdges::states2000, StateEdges::states2001, StateEdges::statesFromNowOn, StateEdges::statesOfWhatIsNow);
+            StateEdges::states2000, StateEdges::states2001, StateEdges::statesFromNowOn, StateEdges::statesOfWhatIsNow,
+            StateEdges::statesBehindOtherGames);
         all.on("Terms", "BEST PLAY: a state is WON in 0, if the game is over there.", StateEdges::wonIn0);
         all.on("Terms", "It is WON in t, if there is an OFFER by which for each NO one of the other two leads to a state that is LOST "
             + "in less than t (t the least such, 1 at least).",
@@ -141,6 +143,18 @@ final class StateEdges {
         due.is("states()", x.states(), 19);
     }
 
+    private static void statesByTheLastPlaces(Due due) {
+        for (int place = 0; place < 11; place++) {
+            GameOfNoes x = Games.heap(Games.withBook(4, 3, Games.FLIPS), 1, 1, 1);
+            x.piece(place, 0, 0);
+            x.piece(11, 0, 1);
+            due.is("1 1 1 of pieces at " + place + " and 11", x.states(), 7);
+            due.is("lost in", x.best(1), 1);
+            Games.heap(x, 2, 2, 2);
+            due.is("as many of 2 2 2 as on two places", x.states(), Games.flips(Games.FLIPS, 2, 2, 2).states());
+        }
+    }
+
     private static void statesByTheTurn(Due due) {
         // Step, step, push leads to the same board and, by 2 2 2, to the same heap, but it is the other side's turn.
         String book = "move 0 step 0,3;move 1 step 0,3;move 2 step 0,3;move 0 push 0,1;move 1 push 0,1;move 2 push 0,1;";
@@ -161,6 +175,30 @@ final class StateEdges {
 
     private static GameOfNoes of2001() {
         return Games.heap(Games.board(Games.withBook(4, 1, BOOK_2001), BOARD_2001), HEAP_2001);
+    }
+
+    private static void statesBehindOtherGames(Due due) {
+        // An object that has looked through greater games answers as a new one does.
+        String[] books = {Games.FLIPS, Games.FLIPS_4,
+            "move 1change0,2;move 2change0,1;move 3change0,1;move 0change1,2;move 1change1,0;move 3change1,2;",
+            "move 0 change 0,1;move 1 change 0,1;move 2 change 0,1;move 0 change 1,2;move 1 change 1,2;move 2 change 1,2;"};
+        GameOfNoes used = Games.withBook(2, 1, Games.flipsOf(0, 1, 2, 3, 4, 5, 6, 7));
+        for (int i = 0; i < books.length; i++) due.is("text", Due.tell(used, books[i]), i + 1);
+        for (int i = 0; i < books.length; i++) {
+            for (int count = 1; count < 4; count++) {
+                used.book(0);
+                Games.heap(Games.board(used, 1, 5), 1, 1, 1, 1, count, 0, 0, 0);
+                used.states();
+                used.book(i + 1);
+                int[] heap = {1, 3, count, 1, 0, 0, 0, 0};
+                Games.heap(Games.board(used, 2, 6), heap);
+                GameOfNoes fresh = Games.heap(Games.board(Games.withBook(2, 1, books[i]), 2, 6), heap);
+                due.is("runs()", used.runs(), fresh.runs());
+                due.is("states()", used.states(), fresh.states());
+                is(due, used, fresh.best(0), fresh.best(1));
+                for (int what = 0; what < 5; what++) due.is("line(0, " + what + ")", used.line(0, what), fresh.line(0, what));
+            }
+        }
     }
 
     /** How many states there are by PlainGame, which counts on up to 3000. */

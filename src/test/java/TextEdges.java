@@ -25,7 +25,7 @@ final class TextEdges {
         all.on("Promise 5", "Twenty bytes come behind the tape, the highest of a first: how many it has.",
             TextEdges::feedCounts, TextEdges::feedOrder, TextEdges::feedBehindWhatIsThere);
         all.on("Promise 5", "NONE, and none come, if there would be more than 300.", TextEdges::feedUpTo300, TextEdges::feedBeyond300);
-        all.on("Promise 6", "The tape has its first n bytes alone: n.", TextEdges::endCuts, TextEdges::endAtAll, TextEdges::endAtNone);
+        all.on("Promise 6", "The tape has its first n bytes alone: n.", TextEdges::endCuts, TextEdges::endCutsATokenShort, TextEdges::endAtAll, TextEdges::endAtNone);
         all.on("Promise 6", "NONE, and nothing is done, if it has not so many, or n is below 0.",
             TextEdges::endBeyondTheTape, TextEdges::endBelowZero);
     }
@@ -37,7 +37,8 @@ final class TextEdges {
         all.on("Terms", "letters a .. z, A .. Z one behind the other (one TOKEN)", TextEdges::letters, TextEdges::bytesBesideTheLetters);
         all.on("Terms", ", digits likewise (NUMBERS, 0 .. 9999)", TextEdges::digits, TextEdges::bytesBesideTheDigits,
             TextEdges::greatestNumber);
-        all.on("Terms", ", <= >= < > = # + - * / ( ) , ; (the longest).", TextEdges::everySign, TextEdges::longestSign);
+        all.on("Terms", ", <= >= < > = # + - * / ( ) , ; (the longest).", TextEdges::everySign, TextEdges::noSignForAnother,
+            TextEdges::longestSign);
     }
 
     private static void clauses(Sentences all) {
@@ -86,7 +87,7 @@ final class TextEdges {
 
     private static void use(Sentences all) {
         all.on("Terms", "THE BOOK: a TEXT's move and place clauses (at first none: no MOVE can be done).",
-            TextEdges::noBookAtFirst, TextEdges::bookOfMoveAndPlaceAlone);
+            TextEdges::noBookAtFirst, TextEdges::bookOfMoveAndPlaceAlone, TextEdges::bookWithoutMoves);
         all.on("Terms", "A WAY of a SIDE: a TEXT's offer, refuse, choose and never clauses (at first none).",
             TextEdges::noWayAtFirst, TextEdges::wayWithoutMoves);
     }
@@ -186,6 +187,19 @@ final class TextEdges {
         due.is("text()", x.text(), 0);
     }
 
+    private static void endCutsATokenShort(Due due) {
+        String[] texts = {"place moved;", "place 1234;", "never 1<=1;", "place 1 ;"};
+        int[] cuts = {10, 8, 8, 7};
+        for (int i = 0; i < texts.length; i++) {
+            GameOfNoes x = new GameOfNoes(2, 1);
+            Due.tape(x, texts[i]);
+            x.end(cuts[i]);
+            x.text();
+            due.is("fault(0) of what is left of " + texts[i], x.fault(0), 1);
+            due.is("fault(1): its end", x.fault(1), cuts[i]);
+        }
+    }
+
     private static void endAtAll(Due due) {
         GameOfNoes x = withTape(20);
         due.is("end(20)", x.end(20), 20);
@@ -232,6 +246,11 @@ final class TextEdges {
         isText(due, " ".repeat(292) + "place 1;");
         isFault(due, " ".repeat(299) + "!", 1, 299);
         isFault(due, " ".repeat(293) + "place 1", 1, 300);
+        // The last byte is within a word, a number, a sign of two bytes.
+        isFault(due, " ".repeat(291) + "place mov", 1, 297);
+        isFault(due, " ".repeat(290) + "place move", 1, 300);
+        isFault(due, " ".repeat(290) + "place 1234", 1, 300);
+        isFault(due, " ".repeat(292) + "never 1<", 1, 300);
     }
 
     private static void fullTextsOneBehindTheOther(Due due) {
@@ -242,11 +261,10 @@ final class TextEdges {
             due.is("text() of a fault", Due.tell(x, full), NONE);
             due.is("fault(1)", x.fault(1), 299);
         }
-        due.is("text()", Due.tell(x, "place (from" + "+1".repeat(140) + ")*1;"), 0);
-        due.is("text() of a move", Due.tell(x, "move 0change0,1 while 1" + "+1".repeat(130) + "=131;place-from;"), 1);
+        due.is("text()", Due.tell(x, "move 0change0,1 while 1" + "+1".repeat(130) + "=131;place from;"), 0);
         Games.board(x, 1, 1);
-        x.book(1);
-        due.is("it counts to 131", x.can(0, 0), 0);
+        x.book(0);
+        due.is("it counts to 131", x.can(0, 0), 1);
     }
 
     private static void blanks(Due due) {
@@ -308,6 +326,16 @@ final class TextEdges {
     private static void everySign(Due due) {
         isText(due, "never 1<=2;never 1>=2;never 1<2;never 1>2;never 1=2;never 1#2;");
         isText(due, "place 1+2-3*4/(5);move 0 step 0,0;");
+    }
+
+    private static void noSignForAnother(Due due) {
+        for (String sign : new String[] {"<=", ">=", "<", ">", "=", "#", "+", "-", "*", "/", "(", ")", ",", ";"}) {
+            boolean joins = "+-*/".contains(sign);
+            if (!sign.equals(",")) isFault(due, "move 0 step 0" + sign + "0;", 1, 13);
+            if (!sign.equals(")")) isFault(due, "place (1" + sign + ";", 1, joins ? 9 : 8);
+            if (!sign.equals(";")) isFault(due, "place 1" + sign, 1, joins ? 8 : 7);
+            if (!sign.equals("(")) isFault(due, "place " + sign + "1);", 1, sign.equals("-") ? 8 : 6);
+        }
     }
 
     private static void longestSign(Due due) {
@@ -536,6 +564,9 @@ final class TextEdges {
         isSum(due, "-(1+2)", -3);
         isSum(due, "(1+2)*3", 9);
         isSum(due, "-2+5", 3);
+        // All that can wait at once: eight open ones with a sum and a product each, inside or, and, a comparing.
+        isSo(due, "1=2 or 1=1 and 9=" + "1+1*(".repeat(8) + "1" + ")".repeat(8), true);
+        isSo(due, "1=2 or 1=1 and 9#" + "1+1*(".repeat(8) + "1" + ")".repeat(8), false);
     }
 
     private static void oneThatIsNone(Due due) {
@@ -847,6 +878,17 @@ final class TextEdges {
         GameOfNoes x = Games.flips(Games.FLIPS_4 + "offer move;refuse move;choose -move;never move=2;place -from;", 2, 2, 2, 2);
         due.is("run(1)", x.run(1), 1);
         due.is("0 1 2, no to 0, 1 is done", Games.heapOf(x, 4), 13122);
+    }
+
+    private static void bookWithoutMoves(Due due) {
+        GameOfNoes x = Games.withBook(3, 3, "place from;offer 1;refuse 1;choose 1;never 1=2;");
+        for (int side = 0; side < 2; side++) {
+            Games.board(x, 1, 5, 0, 2, 6, 1, 0, 3, 8);
+            x.turn(side);
+            for (int move = 0; move < 8; move++) due.is("can(" + move + ", 0)", x.can(move, 0), NONE);
+            Games.board(x, 0, 5, 1, 2, 6, 0, 1, 5, 5);
+            for (int move = 0; move < 8; move++) due.is("can(" + move + ", 0) on another board", x.can(move, 0), NONE);
+        }
     }
 
     private static void noWayAtFirst(Due due) {
