@@ -79,6 +79,14 @@ public final class LanguageTest {
         due.is("constructors", GameOfNoes.class.getDeclaredConstructors().length, 1);
         due.is("public final", GameOfNoes.class.getModifiers(), Modifier.PUBLIC | Modifier.FINAL);
         due.is("public fields", GameOfNoes.class.getFields().length, 2);
+        for (Field field : GameOfNoes.class.getDeclaredFields()) {
+            boolean ofFace = field.getName().equals("NONE") || field.getName().equals("SPENT");
+            due.is("private, or of the face: " + field, ofFace != Modifier.isPrivate(field.getModifiers()), true);
+        }
+        for (Class<?> inside : GameOfNoes.class.getDeclaredClasses()) {
+            due.is("private and static: " + inside, inside.getModifiers() & (Modifier.PRIVATE | Modifier.STATIC),
+                Modifier.PRIVATE | Modifier.STATIC);
+        }
     }
 
     private void source() throws Exception {
