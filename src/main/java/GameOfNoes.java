@@ -201,7 +201,7 @@ public final class GameOfNoes {
     }
 
     public int offers(int i) {
-        isOver(now.position);
+        options.look(now.position, rules(now.book), now.position.stock());
         return triples.pick(options.able, i);
     }
 
@@ -1372,7 +1372,7 @@ public final class GameOfNoes {
             spent = false;
             Arrays.fill(table, 0);
             numberOf(position.boardAndTurn(), position.heap);
-            for (int state = 0; state < size && !spent; state++) {
+            for (int state = 0; state < MOST && state < size && !spent; state++) {
                 expand(state);
             }
         }
@@ -1679,7 +1679,7 @@ public final class GameOfNoes {
                     queued++;
                 }
             }
-            for (int next = 0; next < queued; next++) {
+            for (int next = 0; next < queue.length && next < queued; next++) {
                 int entry = firstEntry[queue[next]];
                 for (int n = 0; n < nextEntry.length && entry != NONE; n++) {
                     int before = entry / States.EXITS;

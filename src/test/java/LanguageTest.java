@@ -3,17 +3,26 @@ import com.sun.source.tree.BinaryTree;
 import com.sun.source.tree.BlockTree;
 import com.sun.source.tree.ClassTree;
 import com.sun.source.tree.CompilationUnitTree;
+import com.sun.source.tree.DoWhileLoopTree;
+import com.sun.source.tree.ExpressionTree;
+import com.sun.source.tree.ForLoopTree;
 import com.sun.source.tree.ImportTree;
 import com.sun.source.tree.LambdaExpressionTree;
+import com.sun.source.tree.LiteralTree;
 import com.sun.source.tree.MemberReferenceTree;
 import com.sun.source.tree.MethodInvocationTree;
 import com.sun.source.tree.MethodTree;
+import com.sun.source.tree.NewArrayTree;
+import com.sun.source.tree.NewClassTree;
 import com.sun.source.tree.SynchronizedTree;
 import com.sun.source.tree.ThrowTree;
 import com.sun.source.tree.Tree;
 import com.sun.source.tree.TryTree;
+import com.sun.source.tree.TypeCastTree;
 import com.sun.source.tree.VariableTree;
+import com.sun.source.tree.WhileLoopTree;
 import com.sun.source.util.JavacTask;
+import com.sun.source.util.TreePath;
 import com.sun.source.util.TreePathScanner;
 import com.sun.source.util.Trees;
 import java.io.File;
@@ -31,9 +40,11 @@ import java.util.List;
 import java.util.Map;
 import java.util.Set;
 import javax.lang.model.element.Element;
+import javax.lang.model.element.ElementKind;
 import javax.lang.model.element.ExecutableElement;
 import javax.lang.model.element.TypeElement;
 import javax.lang.model.type.TypeKind;
+import javax.lang.model.type.TypeMirror;
 import javax.tools.JavaCompiler;
 import javax.tools.StandardJavaFileManager;
 import javax.tools.ToolProvider;
@@ -248,6 +259,8 @@ public final class LanguageTest {
         public Void visitVariable(VariableTree tree, Void none) {
             Element variable = trees.getElement(getCurrentPath());
             Set<javax.lang.model.element.Modifier> flags = variable.getModifiers();
+            String type = variable.asType().toString();
+            due.is("a type of rule 3: " + type + " " + variable, type.matches("(int|long|char|boolean|GameOfNoes\\.\\w+)(\\[\\])?|java.lang.String"), true);
             if (flags.contains(javax.lang.model.element.Modifier.STATIC)) {
                 due.is("final: " + variable, flags.contains(javax.lang.model.element.Modifier.FINAL), true);
                 boolean plain = variable.asType().getKind().isPrimitive() || variable.asType().toString().equals("java.lang.String")
@@ -260,7 +273,76 @@ public final class LanguageTest {
         @Override
         public Void visitBinary(BinaryTree tree, Void none) {
             if (trees.getTypeMirror(getCurrentPath()).getKind() == TypeKind.DECLARED) refuse(tree, "texts joined by +");
+            if (tree.getKind() == Tree.Kind.EQUAL_TO || tree.getKind() == Tree.Kind.NOT_EQUAL_TO) {
+                boolean ofTexts = isOfLibrary(typeOf(tree.getLeftOperand())) || isOfLibrary(typeOf(tree.getRightOperand()));
+                due.is("not of texts: " + tree, ofTexts, false);
+            }
             return super.visitBinary(tree, none);
+        }
+
+        private TypeMirror typeOf(Tree tree) {
+            return trees.getTypeMirror(new TreePath(getCurrentPath(), tree));
+        }
+
+        private boolean isOfLibrary(TypeMirror type) {
+            return type.getKind() == TypeKind.DECLARED && !type.toString().startsWith("GameOfNoes");
+        }
+
+        /** Rule 9, as far as it can be seen here: a loop asks for something that its lines can change. */
+        private void loop(Tree tree, ExpressionTree asked) {
+            boolean ends = asked != null && !asked.toString().matches("\\(*true\\)*") && asked.toString().matches("(?s).*([<>]|!= null).*");
+            if (!ends) refuse(tree, "a loop without an end that can be seen");
+        }
+
+        @Override
+        public Void visitForLoop(ForLoopTree tree, Void none) {
+            loop(tree, tree.getCondition());
+            due.is("it goes on: for " + tree.getCondition(), tree.getUpdate().size(), 1);
+            return super.visitForLoop(tree, none);
+        }
+
+        @Override
+        public Void visitWhileLoop(WhileLoopTree tree, Void none) {
+            loop(tree, tree.getCondition());
+            return super.visitWhileLoop(tree, none);
+        }
+
+        @Override
+        public Void visitDoWhileLoop(DoWhileLoopTree tree, Void none) {
+            loop(tree, tree.getCondition());
+            return super.visitDoWhileLoop(tree, none);
+        }
+
+        /** All rows and objects are made along with the game. */
+        private void made(Tree tree) {
+            due.is("made in a constructor: " + tree, caller == null || caller.getKind() == ElementKind.CONSTRUCTOR, true);
+        }
+
+        @Override
+        public Void visitNewClass(NewClassTree tree, Void none) {
+            made(tree);
+            if (tree.getClassBody() != null) refuse(tree, "a class without a name");
+            return super.visitNewClass(tree, none);
+        }
+
+        @Override
+        public Void visitNewArray(NewArrayTree tree, Void none) {
+            made(tree);
+            return super.visitNewArray(tree, none);
+        }
+
+        @Override
+        public Void visitTypeCast(TypeCastTree tree, Void none) {
+            due.is("among numbers: " + tree, trees.getTypeMirror(getCurrentPath()).getKind().isPrimitive(), true);
+            return super.visitTypeCast(tree, none);
+        }
+
+        @Override
+        public Void visitLiteral(LiteralTree tree, Void none) {
+            if (tree.getValue() instanceof String text) {
+                for (char sign : text.toCharArray()) due.is("a sign of a text: " + (int) sign, sign >= 1 && sign <= 127, true);
+            }
+            return super.visitLiteral(tree, none);
         }
 
         @Override
