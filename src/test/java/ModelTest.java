@@ -14,13 +14,16 @@ public final class ModelTest {
     private final GameOfNoes game;
     private final PlainGame plain;
     private final int[] seen;
+    /** Larger boards with more pieces and moves: fewer games are decided, but more acts are in one another's way. */
+    private final boolean wide;
 
     private ModelTest(Due itsDue, long seed, int[] itsSeen) {
         due = itsDue;
         seen = itsSeen;
         random = new Random(seed);
+        wide = seed % 3 == 0;
         w = random.nextInt(10) == 0 ? random.nextInt(9) - 2 : 2 + random.nextInt(3);
-        h = random.nextInt(10) == 0 ? random.nextInt(8) - 2 : 1 + random.nextInt(2);
+        h = random.nextInt(10) == 0 ? random.nextInt(8) - 2 : 1 + random.nextInt(wide ? 3 : 2);
         game = new GameOfNoes(w, h);
         plain = new PlainGame(w, h);
         calls.add("seed " + seed + ": new(" + w + ", " + h + ")");
@@ -91,10 +94,10 @@ public final class ModelTest {
     private void setUp() {
         setPiece(0, upTo(2), 0);
         setPiece(w > 2 && upTo(2) == 0 ? 2 : 1, upTo(2), 1);
-        int pieces = upTo(4);
+        int pieces = upTo(wide ? 9 : 4);
         for (int i = 0; i < pieces; i++) setPiece(upTo(12), upTo(2), upTo(2));
         int most = 1 + upTo(3);
-        for (int m = 0; m < 3 + upTo(3); m++) setHeap(m, 1 + upTo(most));
+        for (int m = 0; m < 3 + upTo(wide ? 6 : 3); m++) setHeap(m, 1 + upTo(most));
         setBook(0);
         if (upTo(2) == 0) setWay(upTo(2), 1);
     }
@@ -132,7 +135,7 @@ public final class ModelTest {
 
     private void change() {
         switch (upTo(4)) {
-            case 0: setPiece(about(6), upTo(3) == 0 ? -1 : about(4), about(2)); break;
+            case 0: setPiece(about(wide ? 12 : 6), upTo(3) == 0 ? -1 : about(4), about(2)); break;
             case 1: setHeap(about(upTo(2) == 0 ? 8 : 4), about(4)); break;
             case 2:
                 int side = about(2);
@@ -184,10 +187,20 @@ public final class ModelTest {
     /** A ply that may be possible. */
     private int[] drawPly() {
         int count = plain.offers(-1);
+        return drawPly(count, count == 0 ? 0 : plain.offers(upTo(count)));
+    }
+
+    private int[] drawPlyBehindGame() {
+        int count = plain.offersBehindGame(-1);
+        return drawPly(count, count == 0 ? 0 : plain.offersBehindGame(upTo(count)));
+    }
+
+    private int[] drawPly(int count, int told) {
         if (count == 0 || upTo(12) == 0) return new int[] {about(8), about(8), about(8), about(8), about(8)};
-        int told = plain.offers(upTo(count));
         int[] offer = {told / 100, told / 10 % 10, told % 10};
-        return new int[] {offer[0], offer[1], offer[2], offer[upTo(3)], offer[upTo(3)]};
+        int no = upTo(3);
+        int done = upTo(6) == 0 ? upTo(3) : (no + 1 + upTo(2)) % 3;
+        return new int[] {offer[0], offer[1], offer[2], offer[no], offer[done]};
     }
 
     private void playing() {
@@ -205,7 +218,7 @@ public final class ModelTest {
         if (upTo(3) == 0) same("ply(-1, 9, 9, 9, 9)", game.ply(-1, 9, 9, 9, 9), plain.ply(-1, 9, 9, 9, 9));
         int plies = 1 + upTo(8);
         for (int i = 0; i < plies; i++) {
-            int[] p = drawPly();
+            int[] p = upTo(6) == 0 ? drawPly() : drawPlyBehindGame();
             same("ply(" + p[0] + ", " + p[1] + ", " + p[2] + ", " + p[3] + ", " + p[4] + ")",
                 game.ply(p[0], p[1], p[2], p[3], p[4]), plain.ply(p[0], p[1], p[2], p[3], p[4]));
         }

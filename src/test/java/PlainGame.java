@@ -239,6 +239,17 @@ final class PlainGame {
         return -1;
     }
 
+    /** As offers(i), but behind those plies of the told game that can be: for drawing one more. */
+    int offersBehindGame(int i) {
+        State at = now;
+        for (int[] p : game) {
+            State next = plied(at, new int[] {p[0], p[1], p[2]}, p[3], p[4]);
+            if (next == null) break;
+            at = next;
+        }
+        return pick(offersIn(at), i);
+    }
+
     int match(int n, int what) {
         if (n < 1 || n > 99 || what < 0 || what > 1) return -2;
         State at = now;
